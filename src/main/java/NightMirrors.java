@@ -915,7 +915,7 @@ public final class NightMirrors {
         }
     }
 
-    /** What a step of code does: over ARGUMENTS it has a number, a word or the step to go to. */
+    /** What a step of code does; in its lower bits stands a number, a word or the step to go on at. */
     private static final class Op {
         static final int SHIFT = 16;
         static final int ARGUMENT = 0xffff;

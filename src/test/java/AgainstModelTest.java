@@ -95,12 +95,7 @@ public final class AgainstModelTest {
     private boolean say(String text) throws Exception {
         log.add("# " + text);
         for (int i = 0; i < text.length(); i += 20) {
-            int[] five = new int[5];
-            for (int k = 0; k < 20; k++) {
-                int sign = i + k < text.length() ? text.charAt(i + k) : ' ';
-                five[k / 4] = five[k / 4] << 8 | sign;
-            }
-            if (!call("feed", five)) {
+            if (!call("feed", Texts.five(text, i))) {
                 return false;
             }
         }

@@ -22,15 +22,7 @@ public final class NeverThrowsTest {
     private static void text(NightMirrors x, Random random, Texts texts) {
         boolean ofLaws = random.nextBoolean();
         String text = ofLaws ? texts.law() : texts.orders();
-        x.end(0);
-        for (int i = 0; i < text.length(); i += 20) {
-            int[] five = new int[5];
-            for (int k = 0; k < 20; k++) {
-                five[k / 4] = five[k / 4] << 8 | (i + k < text.length() ? text.charAt(i + k) : ' ');
-            }
-            x.feed(five[0], five[1], five[2], five[3], five[4]);
-        }
-        x.end(text.length());
+        Texts.put(x, text);
         if (ofLaws) {
             x.law();
         } else {

@@ -13,17 +13,8 @@ public final class PromisesTest {
         }
     }
 
-    /** The tape has this text alone. */
     private static void say(NightMirrors x, String text) {
-        x.end(0);
-        for (int i = 0; i < text.length(); i += 20) {
-            int[] five = new int[5];
-            for (int k = 0; k < 20; k++) {
-                five[k / 4] = five[k / 4] << 8 | (i + k < text.length() ? text.charAt(i + k) : ' ');
-            }
-            x.feed(five[0], five[1], five[2], five[3], five[4]);
-        }
-        due("end of what was fed", x.end(text.length()), text.length());
+        due("end of what was fed", Texts.put(x, text), text.length());
     }
 
     private static int law(NightMirrors x, String text) {
@@ -191,6 +182,7 @@ public final class PromisesTest {
         due("crack(0, 0, 2)", x.crack(0, 0, 2), -1);
         due("crack(7, 7, 1)", x.crack(7, 7, 1), -1);
         due("crack(0, 1, -1)", x.crack(0, 1, -1), -1);
+        due("crack(0, 1, 2)", x.crack(0, 1, 2), -1);
         due("crack(0, 1, 1)", x.crack(0, 1, 1), -2);
         x.mirror(1, 0, 1);
         x.mirror(1, 0, 1);
@@ -294,6 +286,10 @@ public final class PromisesTest {
         say(x, "\u0000\u0030");
         due("row() of screws alone", x.row(), 0);
         due("status()", x.status(), 0);
+        x.feed(0x03030303, 0x03030303, 0x03030303, 0x03030303, 0x03030303);
+        x.end(2);
+        due("row() of what end() left alone", x.row(), 2);
+        due("part(3, 1)", x.part(3, 1), 2);
     }
 
     private static void p13() {
@@ -442,6 +438,9 @@ public final class PromisesTest {
         faulty(false, "hang stock 8", 11);
         faulty(false, "hang mood", 5);
         faulty(false, "bars", 0);
+        faulty(false, "passz", 0);
+        faulty(false, "polish 0 by " + times("[", 9), 20);
+        faulty(false, "polish 0 by " + times("[", 8) + "1" + times("]", 7), 28);
         faulty(false, "pass" + times(";pass", 12), 60);
         faulty(false, "hang stock 7" + times("+1", 50), 111);
         faulty(false, "pass if " + times("(", 9), 16);
@@ -657,6 +656,13 @@ public final class PromisesTest {
         x.pass();
         x.terms(2, 0);
         due("undo() behind terms()", x.undo(), -3);
+        orders(x, "pass times 16");
+        int night = x.count(13);
+        orders(x, "pass times 20;down 5");
+        for (int i = 0; i < 16; i++) {
+            due("undo() behind orders that stopped", x.undo(), 3);
+        }
+        due("count(13)", x.count(13), night - 16);
         x.pass();
         orders(x, "pass times 20;down 5");
         due("count(5) behind orders that stopped", x.count(5), 1);
@@ -810,6 +816,14 @@ public final class PromisesTest {
         x.hear(2, 0, 0);
         due("listen(1, 0), none", x.listen(1, 0), NONE);
         due("listen(7, 0)", x.listen(7, 0), NONE);
+        NightMirrors y = under("makes part if hour < 8");
+        for (int bend = 0; bend < 6; bend++) {
+            y.mirror(1, bend, 5);
+        }
+        due("listen(1, 0), the last hour", y.listen(1, 0), 8);
+        due("listen(1, 1), the last hour", y.listen(1, 1), 1);
+        due("listen(6, 0)", y.listen(6, 0), 1);
+        due("listen(6, 1)", y.listen(6, 1), 720);
         due("listen(-1, 0)", x.listen(-1, 0), NONE);
         due("listen(0, 2)", x.listen(0, 2), NONE);
         due("listen(0, -1)", x.listen(0, -1), NONE);
@@ -831,6 +845,9 @@ public final class PromisesTest {
         y.force(1);
         due("face(0, 1, 1, 0)", y.face(0, 1, 1, 0), 1);
         due("face(1, 0, 6, 0)", y.face(1, 0, 6, 0), 0);
+        law(y, "makes part if hour = 1 and place = 0;makes 0 if hour > 1 or place > 0");
+        y.force(2);
+        due("face(0, 1, 5, 1), each at place 0 and hour 1", y.face(0, 1, 5, 0) * 10 + y.face(0, 1, 5, 1), 1);
         int[][] bad = {{2, 0, 0, 0}, {0, 2, 0, 0}, {-1, 0, 0, 0}, {0, -1, 0, 0}, {0, 1, 8, 0}, {0, 1, -1, 0},
             {0, 1, 0, 2}, {0, 1, 0, -1}};
         for (int[] b : bad) {
@@ -920,6 +937,12 @@ public final class PromisesTest {
         due("twins(-2)", x.twins(-2), NONE);
         x.force(NONE);
         due("twins(NONE)", x.twins(NONE), 0);
+        for (int hour = 1; hour <= 8; hour++) {
+            NightMirrors y = under("makes 0;makes mirror if hour = " + hour);
+            y.mirror(1, 0, 1);
+            y.mirror(1, 0, 1);
+            due("twins(NONE) but for one hour", y.twins(NONE), 0);
+        }
     }
 
     private static void p36() {
@@ -1101,6 +1124,15 @@ public final class PromisesTest {
         due("part(0, 2)", x.part(0, 2), 8);
         x.mirror(7, 3, 2);
         due("union(2), no crack is left", x.union(2), 4);
+        NightMirrors y = new NightMirrors();
+        y.image(0);
+        law(y, "pays 3");
+        y.image(1);
+        y.back(0);
+        law(y, "pays 4");
+        y.back(1);
+        y.force(0);
+        due("a law as the image has it", y.part(0, 2), 3);
     }
 
     private static void p42() {

@@ -13,6 +13,25 @@ final class Texts {
         this.random = random;
     }
 
+    /** The five numbers for feed() that bring the twenty bytes of a text from a place on, blanks behind it. */
+    static int[] five(String text, int from) {
+        int[] five = new int[5];
+        for (int k = 0; k < 20; k++) {
+            five[k / 4] = five[k / 4] << 8 | (from + k < text.length() ? text.charAt(from + k) : ' ');
+        }
+        return five;
+    }
+
+    /** The tape has this text alone then; what end() answers. */
+    static int put(NightMirrors x, String text) {
+        x.end(0);
+        for (int i = 0; i < text.length(); i += 20) {
+            int[] five = five(text, i);
+            x.feed(five[0], five[1], five[2], five[3], five[4]);
+        }
+        return x.end(text.length());
+    }
+
     private String gap() {
         return random.nextInt(8) == 0 ? "  " : " ";
     }
