@@ -1,67 +1,5 @@
 /** One method for each promise of the document: ordinary inputs, the edges it names, wrong inputs. */
-public final class PromisesTest {
-    private static final int NONE = NightMirrors.NONE;
-    private static int wrong = 0;
-    private static int promise = 0;
-    private static int asked = 0;
-
-    private static void due(String call, long got, long want) {
-        asked++;
-        if (got != want) {
-            wrong++;
-            System.out.println("promise " + promise + ": " + call + " answered " + got + ", due is " + want);
-        }
-    }
-
-    private static void say(NightMirrors x, String text) {
-        due("end of what was fed", Texts.put(x, text), text.length());
-    }
-
-    private static int law(NightMirrors x, String text) {
-        say(x, text);
-        return x.law();
-    }
-
-    private static int orders(NightMirrors x, String text) {
-        say(x, text);
-        return x.orders();
-    }
-
-    /** A law that is at once in force, on a new object. */
-    private static NightMirrors under(String text) {
-        NightMirrors x = new NightMirrors();
-        due(text, law(x, text), 0);
-        x.force(0);
-        return x;
-    }
-
-    private static void faulty(boolean ofLaws, String text, int at) {
-        NightMirrors x = new NightMirrors();
-        due(text, ofLaws ? law(x, text) : orders(x, text), -6);
-        due("fault of " + text, x.fault(), at);
-        due("tape behind " + text, x.count(6), 0);
-    }
-
-    private static void good(String text) {
-        NightMirrors x = new NightMirrors();
-        due(text, law(x, text), 0);
-        due("fault of " + text, x.fault(), NONE);
-    }
-
-    /** What the sum tells, as a wage of 0 .. 99 for part 0. */
-    private static void sum(String sum, int want) {
-        due(sum, under("pays 77;pays " + sum).part(0, 2), want);
-    }
-
-    /** Whether the test is so; a broken one is not. */
-    private static void test(String test, boolean so) {
-        due(test, under("pays 0;pays 1 if " + test).part(0, 2), so ? 1 : 0);
-    }
-
-    private static String times(String text, int n) {
-        return text.repeat(n);
-    }
-
+public final class PromisesTest extends Dues {
     private static void p1() {
         NightMirrors x = new NightMirrors();
         int[] first = {0, 0, 0, 0, 0, 0, 0, 0, 0, 0, 0, 0, NONE, 0, 3, 0, 6, NONE};
@@ -1193,7 +1131,7 @@ public final class PromisesTest {
     }
 
     private static void run(int n) {
-        promise = n;
+        says("promise " + n);
         switch (n) {
             case 1: p1(); break;
             case 2: p2(); break;
@@ -1251,9 +1189,6 @@ public final class PromisesTest {
         for (int n = 1; n <= 43; n++) {
             run(n);
         }
-        System.out.println(asked + " answers for 43 promises, " + wrong + " wrong");
-        if (wrong != 0) {
-            System.exit(1);
-        }
+        finish("promises");
     }
 }
