@@ -57,6 +57,15 @@ public final class NightsBoundsTest extends Dues {
             }
             due("makes(" + hour + ")", x.makes(hour), bits);
         }
+        NightMirrors back = glasses(6);
+        for (int i = 5; i >= 0; i--) {
+            back.hang(i);
+        }
+        int bits = 0;
+        for (int hour = 1; hour <= 8; hour++) {
+            bits |= hour <= 6 ? 1 << 6 - hour : 0;
+            due("makes(" + hour + "), the last one first", back.makes(hour), bits);
+        }
     }
 
     private static void hanging() {
@@ -348,6 +357,25 @@ public final class NightsBoundsTest extends Dues {
             due("count(1)", y.count(1), i % 2 == 0 ? 1 : 0);
         }
         due("undo()", y.undo(), -3);
+        for (int n = 0; n <= 17; n++) {
+            stoppedBehind(n);
+        }
+    }
+
+    /** Orders that stop leave all that could be undone, a full number of it, too. */
+    private static void stoppedBehind(int n) {
+        NightMirrors x = everlasting();
+        x.terms(3, 1);
+        for (int i = 0; i < n; i++) {
+            x.pass();
+        }
+        due("orders that stop behind " + n, orders(x, "down 0;pass times 20;hang 0;pass;down 9"), -3);
+        due("count(5)", x.count(5), Math.min(16, n));
+        for (int i = 1; i <= Math.min(16, n); i++) {
+            due("undo " + i + " of " + n, x.undo(), 3);
+            due("stock", x.part(0, 0), n - i);
+        }
+        due("undo() of none", x.undo(), -3);
     }
 
     private static void notUndone() {

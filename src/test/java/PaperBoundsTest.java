@@ -83,6 +83,49 @@ public final class PaperBoundsTest extends Dues {
         noWhole("silver 0 and 0", worn, 3);
     }
 
+    private static void asNow() {
+        says("(On paper, \"makes\" with SILVER and NIGHT as now)");
+        NightMirrors x = under("makes 5;makes 6 if silver=30 and night=0;makes 4 if mirror=1;wears 0 if night=0");
+        x.mirror(1, 0, 30);
+        x.mirror(1, 0, 30);
+        x.clock(6, 3);
+        int[] parts = {6, 5, 5};
+        for (int now = 0; now < 3; now++) {
+            int part = parts[now];
+            wholeOrNot("now " + now, x, part == 6);
+            due("near(3), now " + now, x.near(3), part == 6 ? 0 : 3);
+            x.hear(8, part, 1);
+            due("lines(1, NONE, 0), now " + now, x.lines(1, NONE, 0), 1);
+            due("lines(1, 0, 0), now " + now, x.lines(1, 0, 0), 0);
+            x.forget();
+            x.hang(0);
+            x.pass();
+            x.down(0);
+        }
+        NightMirrors y = under("makes silver-25;makes 0 if night>1");
+        y.mirror(1, 0, 30);
+        y.mirror(1, 0, 28);
+        due("twins(NONE)", y.twins(NONE), 0);
+        due("listen(1, 1)", y.listen(1, 1), 1);
+        y.hang(0);
+        y.pass();
+        due("twins(NONE)", y.twins(NONE), 0);
+        due("listen(1, 1)", y.listen(1, 1), 1);
+        y.pass();
+        due("twins(NONE)", y.twins(NONE), 1);
+        due("listen(1, 1)", y.listen(1, 1), 2);
+        y.terms(0, 1);
+        due("twins(NONE), silver 28 both", y.twins(NONE), 1);
+    }
+
+    private static void wholeOrNot(String when, NightMirrors x, boolean is) {
+        if (is) {
+            wholeIs(when, x, 3, 0);
+        } else {
+            noWhole(when, x, 3);
+        }
+    }
+
     private static void near() {
         says("NEAR by an HOUR: the least .. of all PARTS together (any LINE, none too)");
         int[] full = {23, 21, 18, 16, 15, 15, 17, 21};
@@ -100,6 +143,8 @@ public final class PaperBoundsTest extends Dues {
         due("a second barred", second.near(2), 1);
         second.force(NONE);
         due("a second", second.near(2), 0);
+        due("a mirror hangs but once", clockOf(glasses(2), 3).near(2), 1);
+        due("a mirror hangs but once", clockOf(glasses(6), 3, 0, 0, 0, 0, 0, 2).near(2), 3);
         NightMirrors worn = glasses(0);
         worn.mirror(1, 0, 1);
         worn.hang(0);
@@ -233,6 +278,11 @@ public final class PaperBoundsTest extends Dues {
             NightMirrors y = addGlasses(under("makes 7;makes mirror if hour>" + (hour - 1)), 6);
             due("the first hour", y.listen(1, 0), hour);
         }
+        says("(the same set of PARTS)");
+        for (int part = 0; part < 8; part++) {
+            sameSets(part, (part + 1) % 8);
+            sameSets(part, (part + 7) % 8);
+        }
         says("NONE (no LINES)");
         for (int what = 0; what < 2; what++) {
             due("too few mirrors", glasses(5).listen(6, what), NONE);
@@ -246,6 +296,24 @@ public final class PaperBoundsTest extends Dues {
             one.hear(8, 3, 1);
             due("one is left", one.listen(1, what), 1);
         }
+    }
+
+    /** Two make one part, the second one of three another: at hour 2 there is the one alone, or both of them. */
+    private static void sameSets(int one, int other) {
+        NightMirrors x = under("makes 7 if hour=1");
+        x.mirror(one + 1, 0, 1);
+        x.mirror(other + 1, 0, 1);
+        x.mirror(one + 1, 0, 1);
+        for (int n = 2; n <= 3; n++) {
+            due("listen(" + n + ", 0) of " + one + ", " + other, x.listen(n, 0), 2);
+            due("listen(" + n + ", 1) of " + one + ", " + other, x.listen(n, 1), 4);
+        }
+        NightMirrors y = under("makes 7 if hour>1");
+        y.mirror(one + 1, 0, 1);
+        y.mirror(other + 1, 0, 1);
+        y.mirror(one + 1, 0, 1);
+        due("listen(3, 0), one of them works", y.listen(3, 0), 1);
+        due("listen(3, 1), one of them works", y.listen(3, 1), 4);
     }
 
     private static void facing() {
@@ -412,6 +480,11 @@ public final class PaperBoundsTest extends Dues {
             worn.clock(0, 3);
             due("silver " + silver, worn.till(), silver == 3 ? 3 : NONE);
         }
+        NightMirrors then = under("makes 7;makes 0 if silver=1");
+        then.mirror(1, 0, 30);
+        then.hang(0);
+        then.clock(0, 3);
+        due("SILVER as it is then", then.till(), 30);
         NightMirrors moved = new NightMirrors();
         for (int i = 0; i < 6; i++) {
             moved.mirror(i + 1, 0, 1 + i);
@@ -601,6 +674,23 @@ public final class PaperBoundsTest extends Dues {
             due("drawn(" + i + ", 2)", six.drawn(i, 2), places[i]);
             due("drawn(" + i + ", 1)", six.drawn(i, 1), i == 4 ? 30 : 29);
         }
+        // The same draw 17860 is of one to six mirrors the mirror 0, 0, 1, 0, 0, 4.
+        int[] taken = {0, 0, 1, 0, 0, 4};
+        for (int n = 1; n <= 6; n++) {
+            NightMirrors x = hangAll(glasses(n));
+            x.years(5, 1);
+            for (int i = 0; i < n; i++) {
+                int t = taken[n - 1];
+                due("drawn(" + i + ", 2) of " + n, x.drawn(i, 2), i == t ? NONE : i < t ? i : i - 1);
+            }
+        }
+        // Drawn on to 0, then to 12345 (0 of 3); to 1,000,002 (0 of six), then to 11242 (1 of 3).
+        NightMirrors none = glasses(6);
+        due("the first is hung", none.years(870345, 1), 6);
+        due("drawn(0, 2)", none.drawn(0, 2), 0);
+        due("the first can't be taken down", none.years(327279, 1), 0);
+        due("the first is taken down", hangAll(glasses(6)).years(327279, 1), 20);
+        due("the first can't be hung", hangAll(glasses(6)).years(870345, 1), 21);
         due("nothing", six.years(29, 1), 21);
         due("drawn(5, 2)", six.drawn(5, 2), 5);
         due("drawn(5, 0)", six.drawn(5, 0), 1);
@@ -634,6 +724,7 @@ public final class PaperBoundsTest extends Dues {
 
     public static void main(String[] args) {
         whole();
+        asNow();
         near();
         lines();
         heard();

@@ -376,6 +376,123 @@ public final class RefusedTest extends Dues {
         due("stock and night behind years", x.count(2) * 1000 + x.count(13), sum);
     }
 
+    /** An image of the rich object, taken, everything changed, and gone back to. */
+    private static void images() {
+        says("BACK to one all that it keeps is as it was then (IMAGES stay)");
+        for (int k = 0; k < 2; k++) {
+            for (Look look : new Look[] {RefusedTest::held, RefusedTest::reckoned}) {
+                NightMirrors x = rich(true);
+                NightMirrors other = rich(true);
+                x.image(k);
+                changeAll(x);
+                due("back(" + k + ")", x.back(k), 0);
+                Map<String, Long> got = new LinkedHashMap<>();
+                Map<String, Long> want = new LinkedHashMap<>();
+                look.at(x, got);
+                look.at(other, want);
+                for (String ask : want.keySet()) {
+                    boolean kept = !ask.matches("(drawn|screws|fault|stopped|status).*|count\\(([5-9]|10|11)\\)");
+                    if (kept) {
+                        due("behind back(" + k + "): " + ask, got.get(ask), want.get(ask));
+                    }
+                }
+            }
+        }
+        twoPasts();
+        notKept();
+    }
+
+    /** What one image keeps stays, though other mirrors and laws come in the place of these behind the other one. */
+    private static void twoPasts() {
+        NightMirrors x = new NightMirrors();
+        x.image(0);
+        past(x, 0);
+        x.image(1);
+        isPast(x, 0);
+        x.back(0);
+        past(x, 1);
+        isPast(x, 1);
+        x.image(0);
+        due("back(1)", x.back(1), 0);
+        isPast(x, 0);
+        due("back(0)", x.back(0), 0);
+        isPast(x, 1);
+    }
+
+    private static void past(NightMirrors x, int k) {
+        for (int i = 0; i < 6; i++) {
+            due("mirror " + i, x.mirror(k == 0 ? i + 1 : 11 * (8 - i), (i + k) % 8, 10 * k + i + 1), i);
+            due("law " + i, law(x, "pays " + (50 * k + i)), i);
+        }
+    }
+
+    private static void isPast(NightMirrors x, int k) {
+        for (int i = 0; i < 6; i++) {
+            String of = " of " + i + " in the past " + k;
+            due("how many parts" + of, x.of(i, 0), 1 + k);
+            due("bend" + of, x.of(i, 1), (i + k) % 8);
+            due("silver" + of, x.of(i, 2), 10 * k + i + 1);
+            due("first part" + of, x.of(i, 5), k == 0 ? i : 7 - i);
+            due("second part" + of, x.of(i, 6), k == 0 ? NONE : 7 - i);
+            x.force(i);
+            due("paid by law" + of, x.part(0, 2), 50 * k + i);
+        }
+    }
+
+    private static void changeAll(NightMirrors x) {
+        law(x, "pays 50;makes 7;wears 7;bars");
+        x.mirror(88888, 7, 7);
+        x.crack(0, 2, 0);
+        x.crack(0, 1, 1);
+        x.crack(4, 5, 1);
+        for (int what = 0; what < 4; what++) {
+            x.terms(what, x.count(13 + what) + 1);
+        }
+        for (int part = 0; part < 8; part++) {
+            x.clock(part, 3 - x.part(part, 1));
+        }
+        x.forget();
+        for (int hour = 1; hour <= 8; hour++) {
+            x.hear(hour, 8 - hour, hour % 2);
+        }
+        x.force(1);
+        x.hang(2);
+        x.pass();
+        x.polish(3, 30);
+        x.hang(3);
+        x.down(1);
+        x.pass();
+    }
+
+    private static void notKept() {
+        says("IMAGES 0, 1 keep all but the TAPE, FAULT, SCREWS, where ORDERS stopped, .. the latest YEARS");
+        NightMirrors x = rich(false);
+        x.image(1);
+        row(x, 9, 9, 9);
+        law(x, "bars; ?");
+        orders(x, "pass;pass;pass;down 9");
+        orders(x, "pass if 1=2;pass if 1=2;down 9");
+        law(x, "bars    ?");
+        x.years(29, 40);
+        Map<String, Long> ahead = new LinkedHashMap<>();
+        held(x, ahead);
+        say(x, "bars");
+        x.back(1);
+        due("the tape", x.count(6), 4);
+        due("count(5)", x.count(5), 0);
+        due("fault()", x.fault(), 8);
+        due("screws()", x.screws(), 3);
+        due("stopped()", x.stopped(), 2);
+        Map<String, Long> behind = new LinkedHashMap<>();
+        held(x, behind);
+        for (String ask : ahead.keySet()) {
+            if (ask.matches("drawn.*|count\\(([7-9]|10|11)\\)")) {
+                due("behind back(1): " + ask, behind.get(ask), ahead.get(ask));
+            }
+        }
+        due("law() of the tape", x.law(), x.count(4) - 1);
+    }
+
     private static long askAll(NightMirrors x, int n) {
         return x.of(n, 2) + x.of(0, n) + x.at(n) + x.asks(n, 0, 1, 0) + x.asks(0, n, 1, 0) + x.asks(0, 0, n, 0)
             + x.asks(0, 0, 1, n) + x.part(n, 0) + x.part(0, n) + x.screws() + x.fault() + x.stopped() + x.makes(n)
@@ -394,6 +511,7 @@ public final class RefusedTest extends Dues {
         byTexts();
         answersOfNone();
         asksOnly();
+        images();
         finish("sentences on refused calls");
     }
 }

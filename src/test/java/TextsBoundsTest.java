@@ -129,6 +129,26 @@ public final class TextsBoundsTest extends Dues {
         faulty(false, many + " times 20 if hung=1", many.length() + 13);
         goodOrders("polish 1" + times("+1", 24) + " by 1" + times("+1", 24));
         faulty(false, "polish 1" + times("+1", 24) + " by 1" + times("+1", 24) + "+1", 110);
+        manyTexts();
+    }
+
+    /** What one text has is not counted for the next one. */
+    private static void manyTexts() {
+        NightMirrors x = glasses(1);
+        String sum = "1" + times("+1", 46);
+        for (int i = 0; i < 6; i++) {
+            due("law " + i + " of fifty", law(x, "pays " + sum + "+" + i + " if mood=" + i), i);
+        }
+        for (int i = 0; i < 20; i++) {
+            due("orders " + i + " of fifty", orders(x, "pass times 2 if " + sum + "=night+0+" + (47 - 2 * i)), 1);
+            x.undo();
+            due("orders " + i + " of fifty", orders(x, "pass times 2 if 0+" + sum + "<48+night"), 2);
+        }
+        for (int i = 0; i < 6; i++) {
+            x.force(i);
+            x.terms(2, i);
+            due("law " + i + " as it was read", x.part(0, 2), 47 + i);
+        }
     }
 
     private static void brackets() {
@@ -333,6 +353,24 @@ public final class TextsBoundsTest extends Dues {
         test("not " + so + " or " + so, true);
         test("not " + so + " and " + not, false);
         test("not (" + so + " and " + not + ")", true);
+        String[] all = {"1=1", "1<2", "2>1", "not 1=2", "(1=1)", "1=2 or 1=1"};
+        String[] none = {"1=2", "2=1", "2<1", "1<1", "1>2", "1>1", "not 1=1", "(1=2)", "not 1<2", "1=1 and 1=2"};
+        for (String one : all) {
+            test("(" + one + ") and 1=1", true);
+            test("(" + one + ") and 1=2", false);
+            test("(" + one + ") or 1=2", true);
+            test("not (" + one + ")", false);
+            test("not (not (" + one + "))", true);
+            test("not not (" + one + ")", true);
+        }
+        for (String one : none) {
+            test("(" + one + ") and 1=1", false);
+            test("(" + one + ") or 1=1", true);
+            test("(" + one + ") or 1=2", false);
+            test("not (" + one + ")", true);
+            test("not (not (" + one + "))", false);
+            test("not not not (" + one + ")", true);
+        }
     }
 
     private static void sums() {
