@@ -201,7 +201,7 @@ public final class AgainstModelTest {
                 return false;
             }
         }
-        while (calls() < MOST_CALLS - 120) {
+        while (calls() < MOST_CALLS - 180) {
             if (!someCall() || random.nextInt(40) == 0 && !sweep()) {
                 return false;
             }
