@@ -96,7 +96,7 @@ public final class RulesTest {
     }
 
     /** The source without comments, texts and signs, its lines as they were. */
-    private static String bare(String source) {
+    static String bare(String source) {
         StringBuilder b = new StringBuilder();
         Matcher m = Pattern.compile("/\\*.*?\\*/|//[^\n]*|\"(?:\\\\.|[^\"\\\\])*\"|'(?:\\\\.|[^'\\\\])'", Pattern.DOTALL)
             .matcher(source);
